@@ -1,0 +1,115 @@
+import java.lang.reflect.Constructor;
+import java.lang.reflect.Field;
+import java.lang.reflect.Method;
+import java.lang.reflect.Modifier;
+import java.nio.file.Files;
+import java.nio.file.Path;
+import java.util.ArrayList;
+import java.util.Collections;
+import java.util.HashSet;
+import java.util.List;
+import java.util.Set;
+import java.util.regex.Matcher;
+import java.util.regex.Pattern;
+
+/** The public face of the document, and the rules of LANGUAGE.md that can be seen in the class or its text. */
+public final class LanguageTest {
+    private static final Due due = new Due();
+
+    private static final String[] METHODS = {
+        "put(int,int,int)", "wipe()", "compile()", "feed(int,int)", "parse()", "value(int)", "drop()", "write()",
+        "place()", "at()", "values()", "valueAt(int)", "bytes()", "byteAt(int)", "variable(int)",
+    };
+
+    private static final String[] CONSTANTS = {
+        "OK=0", "STRUCTURE=1", "UNSET=2", "SHORT=3", "RANGE=4", "MISMATCH=5", "PADDING=6", "LEFT=7", "MANY=8",
+        "NOT_READY=9", "REFUSED=-1",
+    };
+
+    private static final String[] WORDS = {
+        "String", "Math", "Integer", "System", "Arrays", "Object", "import", "package", "float", "double", "null",
+        "throw", "throws", "try", "catch", "synchronized", "assert", "instanceof", "enum", "record", "interface",
+        "protected", "toString", "hashCode", "equals", "clone", "getClass",
+    };
+
+    public static void main(String[] args) throws Exception {
+        methods();
+        fields();
+        text();
+        due.end();
+    }
+
+    private static void methods() {
+        Class<?> type = FormatWorkshop.class;
+        due.holds("the class is public and final", Modifier.isPublic(type.getModifiers()) && Modifier.isFinal(type.getModifiers()));
+        due.is("nested classes", type.getDeclaredClasses().length, 0);
+        Constructor<?>[] constructors = type.getDeclaredConstructors();
+        due.is("constructors", constructors.length, 1);
+        due.holds("the constructor is public, without parameters",
+            Modifier.isPublic(constructors[0].getModifiers()) && constructors[0].getParameterCount() == 0);
+        Set<String> publicNames = new HashSet<>();
+        List<String> found = new ArrayList<>();
+        for (Method method : type.getDeclaredMethods()) {
+            if (Modifier.isPublic(method.getModifiers())) {
+                due.holds(method + " answers an int", method.getReturnType() == int.class);
+                publicNames.add(method.getName());
+                String parameters = "int,".repeat(method.getParameterCount());
+                found.add(method.getName() + "(" + parameters.replaceAll(",$", "") + ")");
+            }
+        }
+        same("public methods", found, List.of(METHODS));
+        for (Method method : type.getDeclaredMethods()) {
+            if (!Modifier.isPublic(method.getModifiers())) {
+                due.holds(method + " is private", Modifier.isPrivate(method.getModifiers()));
+                due.holds(method + " has a name of its own", !publicNames.contains(method.getName()));
+                due.holds(method + " has at most seven parameters", method.getParameterCount() <= 7);
+            }
+        }
+    }
+
+    private static void fields() throws Exception {
+        List<String> constants = new ArrayList<>();
+        int held = 0;
+        for (Field field : FormatWorkshop.class.getDeclaredFields()) {
+            int modifiers = field.getModifiers();
+            Class<?> type = field.getType();
+            if (Modifier.isPublic(modifiers)) {
+                due.holds(field + " is a constant", Modifier.isStatic(modifiers) && Modifier.isFinal(modifiers) && type == int.class);
+                constants.add(field.getName() + "=" + field.getInt(null));
+                continue;
+            }
+            due.holds(field + " is private", Modifier.isPrivate(modifiers));
+            if (Modifier.isStatic(modifiers)) {
+                due.holds(field + " is a constant number", Modifier.isFinal(modifiers) && (type == int.class || type == long.class));
+            } else {
+                held++;
+                due.holds(field + " is a number or an array of numbers",
+                    type.isPrimitive() || type.isArray() && type.getComponentType().isPrimitive());
+            }
+        }
+        same("public constants", constants, List.of(CONSTANTS));
+        due.holds(held + " fields are some forty at most", held <= 40);
+    }
+
+    private static void text() throws Exception {
+        String source = Files.readString(Path.of("src/main/java/FormatWorkshop.java"));
+        String code = source.replaceAll("(?s)/\\*.*?\\*/", "").replaceAll("//[^\n]*", "");
+        for (String word : WORDS) {
+            due.holds("the code is without " + word, !Pattern.compile("\\b" + word + "\\b").matcher(code).find());
+        }
+        due.holds("the code is without -> and ::", !code.contains("->") && !code.contains("::"));
+        Matcher made = Pattern.compile("(?m)^.*\\bnew\\b.*$").matcher(code);
+        while (made.find()) {
+            due.holds("an array is made in a field's initialiser:" + made.group(),
+                made.group().matches("    private final int\\[\\] \\w+ = new int\\[[A-Z_]+\\];"));
+        }
+    }
+
+    private static void same(String what, List<String> found, List<String> wanted) {
+        List<String> left = new ArrayList<>(found);
+        List<String> right = new ArrayList<>(wanted);
+        Collections.sort(left);
+        Collections.sort(right);
+        due.holds(what + " are " + right + ", found " + left, left.equals(right));
+    }
+}
