@@ -282,6 +282,16 @@ public final class PromisesTest {
         due.is("they are still there", x.put(BYTE, 8, 0), 2);
         due.is("a format with the new one", x.compile(), OK);
         written("a format with the new one", x, OK, -1, 2);
+        x = items(SET, 0, 0, REPEAT, 0, 0, REPEAT, 0, 0, REPEAT, 0, 0, REPEAT, 0, 0);
+        checked("four left open", x, STRUCTURE, 5);
+        x.wipe();
+        x.put(SET, 0, 0);
+        x.put(REPEAT, 0, 0);
+        x.put(END, 0, 0);
+        checked("what was open is forgotten", x, OK, -1);
+        x.wipe();
+        x.put(BOUND, 0, 0);
+        checked("what was set is forgotten", x, UNSET, 0);
         x = items(END, 0, 0);
         x.compile();
         due.is("no format: parse", x.parse(), NOT_READY);
@@ -405,6 +415,12 @@ public final class PromisesTest {
         parsed("the END of a BLOCK, not 0", block, PADDING, 3, 1, 0xf1, 0xf0);
         FormatWorkshop full = format(BITS, 8, 0, BYTE, 1, 0);
         parsed("no bits are left of a full byte", full, OK, -1, 2, 0xff, 1);
+        FormatWorkshop seven = format(BITS, 7, 0);
+        parsed("one bit is left, 0", seven, OK, -1, 1, 0xfe);
+        parsed("one bit is left, 1", seven, PADDING, 1, 1, 0xff);
+        FormatWorkshop just = format(BITS, 8, 0, BITS, 16, 1, BITS, 4, 2, BITS, 12, 3);
+        parsed("just as many bytes as are begun", just, OK, -1, 5, 1, 2, 3, 0x45, 0x67);
+        listed("just as many bytes as are begun", just, 1, 0x203, 4, 0x567);
     }
 
     private static void parseBytes() {
@@ -725,6 +741,20 @@ public final class PromisesTest {
         list(x, 7, 7);
         written("the item closes the byte before it ends the write", x, SHORT, 2, 1);
         made("the item closes the byte before it ends the write", x, 0xfc);
+        FormatWorkshop seven = format(BITS, 7, 0, BITS, 1, 0);
+        list(seven, 1);
+        written("with one bit left", seven, SHORT, 1, 1);
+        made("with one bit left", seven);
+        list(seven, 1, 1);
+        written("with no bit left", seven, OK, -1, 1);
+        made("with no bit left", seven, 3);
+        FormatWorkshop again = format(INT, 1, 0, WHEN, 255, 0, INT, 3, 1, ELSE, 0, 0, BITS, 1, 1, ALIGN, 4, 0, END, 0, 0);
+        list(again, 255, 0xffffff);
+        written("a first write", again, OK, -1, 4);
+        made("a first write", again, 255, 255, 255, 255);
+        list(again, 0, 0);
+        written("nothing of it is in the second", again, OK, -1, 4);
+        made("nothing of it is in the second", again, 0, 0, 0, 0);
         FormatWorkshop left = format(BITS, 3, 0);
         list(left, 7, 7);
         written("the end closes the byte before LEFT", left, LEFT, 1, 1);
@@ -848,6 +878,8 @@ public final class PromisesTest {
         for (int v = 0; v < 8; v++) {
             due.is("0 at the beginning, variable " + v, x.variable(v), early[v]);
         }
+        parsed("ended at once", x, SHORT, 0, 0);
+        due.is("0 at the beginning of each parse", x.variable(0), 0);
         list(x, -3, 9, 15, 256);
         written("of a write", x, RANGE, 6, 3);
         int[] wrote = {-3, 9, 15, -5, 0, 0, 0, 3};
