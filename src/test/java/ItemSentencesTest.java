@@ -31,6 +31,7 @@ public final class ItemSentencesTest extends Sentences {
         sumFull();
         alignEvery();
         alignFromTheBeginning();
+        alignOverOldBytes();
         boundEdges();
         setAndAdd();
         notLookedAt();
@@ -437,6 +438,16 @@ public final class ItemSentencesTest extends Sentences {
         bothWays(format(BITS, 8, 0, ALIGN, 2, 0), row(129, 0), 129);
         bothWays(format(BITS, 9, 0, ALIGN, 2, 0), row(128, 128), 257);
         bothWays(format(BYTE, 1, 0, ALIGN, 8, 0, ALIGN, 8, 0, ALIGN, 4, 0), row(1, 0, 0, 0, 0, 0, 0, 0));
+    }
+
+    private static void alignOverOldBytes() {
+        sentence("promise 9, behind another write",
+            "as few bytes 0 as bring the number of bytes before what follows to a multiple of a (2 .. 8)");
+        Bench x = format(INT, 1, 0, WHEN, 255, 0, INT, 4, 1, INT, 3, 1, ELSE, 0, 0, ALIGN, 8, 0, END, 0, 0);
+        written(x, OK, NONE, 8, 255, -1, 0xffffff);
+        hasBytes(x, times(8, 255));
+        written(x, OK, NONE, 8, 1);
+        hasBytes(x, 1, 0, 0, 0, 0, 0, 0, 0);
     }
 
     // 9 BOUND, 10 SET, 11 ADD

@@ -8,7 +8,9 @@ import java.util.ArrayList;
 import java.util.Collections;
 import java.util.HashSet;
 import java.util.List;
+import java.util.Map;
 import java.util.Set;
+import java.util.TreeMap;
 import java.util.regex.Matcher;
 import java.util.regex.Pattern;
 
@@ -36,6 +38,7 @@ public final class LanguageTest {
         methods();
         fields();
         text();
+        calls();
         due.end();
     }
 
@@ -91,9 +94,13 @@ public final class LanguageTest {
         due.holds(held + " fields are some forty at most", held <= 40);
     }
 
-    private static void text() throws Exception {
+    private static String code() throws Exception {
         String source = Files.readString(Path.of("src/main/java/FormatWorkshop.java"));
-        String code = source.replaceAll("(?s)/\\*.*?\\*/", "").replaceAll("//[^\n]*", "");
+        return source.replaceAll("(?s)/\\*.*?\\*/", "").replaceAll("//[^\n]*", "");
+    }
+
+    private static void text() throws Exception {
+        String code = code();
         for (String word : WORDS) {
             due.holds("the code is without " + word, !Pattern.compile("\\b" + word + "\\b").matcher(code).find());
         }
@@ -103,6 +110,53 @@ public final class LanguageTest {
             due.holds("an array is made in a field's initialiser:" + made.group(),
                 made.group().matches("    private final int\\[\\] \\w+ = new int\\[[A-Z_]+\\];"));
         }
+    }
+
+    /** Rules 8 and 10: no recursion, short methods, calls at most six deep, and none inside the arguments of another. */
+    private static void calls() throws Exception {
+        Map<String, String> bodies = new TreeMap<>();
+        Matcher method = Pattern.compile("(?ms)^    (?:public|private) \\w+ (\\w+)\\([^)]*\\) \\{\n(.*?)^    \\}").matcher(code());
+        while (method.find()) {
+            bodies.put(method.group(1), method.group(2));
+            due.holds(method.group(1) + " has some sixty lines at most", method.group(2).lines().count() <= 60);
+        }
+        due.is("methods found in the text", bodies.size(), FormatWorkshop.class.getDeclaredMethods().length);
+        for (String name : bodies.keySet()) {
+            int deep = depth(name, bodies, new HashSet<>());
+            due.holds("calls from " + name + " go six deep at most, here " + deep, deep <= 6);
+            for (String arguments : argumentsOfCalls(bodies.get(name))) {
+                due.holds("no call inside the arguments (" + arguments + ") in " + name, !arguments.matches("(?s).*\\w\\(.*"));
+            }
+        }
+    }
+
+    private static int depth(String name, Map<String, String> bodies, Set<String> above) {
+        if (!above.add(name)) {
+            due.holds(name + " does not call itself", false);
+            return 0;
+        }
+        int deepest = 0;
+        Matcher call = Pattern.compile("\\b(\\w+)\\(").matcher(bodies.get(name));
+        while (call.find()) {
+            if (bodies.containsKey(call.group(1))) {
+                deepest = Math.max(deepest, depth(call.group(1), bodies, above));
+            }
+        }
+        above.remove(name);
+        return deepest + 1;
+    }
+
+    private static List<String> argumentsOfCalls(String body) {
+        List<String> found = new ArrayList<>();
+        Matcher call = Pattern.compile("\\b\\w+\\(").matcher(body);
+        while (call.find()) {
+            int end = call.end();
+            for (int open = 1; open > 0; end++) {
+                open += body.charAt(end) == '(' ? 1 : body.charAt(end) == ')' ? -1 : 0;
+            }
+            found.add(body.substring(call.end(), end - 1));
+        }
+        return found;
     }
 
     private static void same(String what, List<String> found, List<String> wanted) {
