@@ -9,6 +9,7 @@ import java.util.Collections;
 import java.util.HashSet;
 import java.util.List;
 import java.util.Map;
+import java.util.Random;
 import java.util.Set;
 import java.util.TreeMap;
 import java.util.regex.Matcher;
@@ -39,6 +40,7 @@ public final class LanguageTest {
         fields();
         text();
         calls();
+        anyCalls();
         due.end();
     }
 
@@ -105,6 +107,7 @@ public final class LanguageTest {
             due.holds("the code is without " + word, !Pattern.compile("\\b" + word + "\\b").matcher(code).find());
         }
         due.holds("the code is without -> and ::", !code.contains("->") && !code.contains("::"));
+        due.holds("the code is without a static initialiser", !Pattern.compile("\\bstatic\\s*\\{").matcher(code).find());
         Matcher made = Pattern.compile("(?m)^.*\\bnew\\b.*$").matcher(code);
         while (made.find()) {
             due.holds("an array is made in a field's initialiser:" + made.group(),
@@ -157,6 +160,84 @@ public final class LanguageTest {
             found.add(body.substring(call.end(), end - 1));
         }
         return found;
+    }
+
+    /**
+     * Rules 7 and 11: no call throws or fails to end, in any state, so also behind the calls that are promised; and the
+     * same calls give the same answers.
+     */
+    private static void anyCalls() {
+        Random random = new Random(1);
+        FormatWorkshop x = new FormatWorkshop();
+        FormatWorkshop y = new FormatWorkshop();
+        int formats = 0;
+        for (int round = 0; round < 20000; round++) {
+            List<int[]> made = new ArrayList<>();
+            if (random.nextInt(4) == 0) {
+                made.add(new int[] {1});
+                describe(made, random);
+                made.add(new int[] {2});
+            }
+            for (int i = random.nextInt(30); i >= 0; i--) {
+                int which = random.nextInt(30) == 0 ? random.nextInt(3) : 3 + random.nextInt(12);
+                made.add(new int[] {which, anyInt(random), anyInt(random), anyInt(random)});
+            }
+            for (int[] call : made) {
+                int answer = answer(x, call);
+                due.is("the same call " + call[0] + " on a second object", answer(y, call), answer);
+                formats += call[0] == 2 && answer == FormatWorkshop.OK ? 1 : 0;
+            }
+        }
+        due.holds("many descriptions become a format, here " + formats, formats > 2000);
+    }
+
+    private static void describe(List<int[]> made, Random random) {
+        for (int v = 0; v < 8; v++) {
+            made.add(new int[] {0, 10, random.nextInt(40), v});
+        }
+        int open = 0;
+        for (int i = random.nextInt(28); i > 0; i--) {
+            int kind = random.nextInt(12);
+            boolean opens = kind >= 4 && kind <= 6;
+            if (opens && open == 4) {
+                continue;
+            }
+            open += opens ? 1 : 0;
+            made.add(new int[] {0, kind, kind == 10 ? random.nextInt(40) : random.nextInt(9), random.nextInt(8)});
+            if (open > 0 && random.nextInt(3) == 0) {
+                open--;
+                made.add(new int[] {0, 13, 0, 0});
+            }
+        }
+        for (; open > 0; open--) {
+            made.add(new int[] {0, 13, 0, 0});
+        }
+    }
+
+    private static int anyInt(Random random) {
+        int[] edges = {Integer.MIN_VALUE, Integer.MIN_VALUE + 1, Integer.MAX_VALUE, Integer.MAX_VALUE - 1, -1};
+        int way = random.nextInt(20);
+        return way < edges.length ? edges[way] : way < 7 ? random.nextInt() : random.nextInt(1 << random.nextInt(8));
+    }
+
+    private static int answer(FormatWorkshop x, int[] call) {
+        switch (call[0]) {
+            case 0: return x.put(call[1], call[2], call[3]);
+            case 1: return x.wipe();
+            case 2: return x.compile();
+            case 3: return x.feed(call[1], call[2]);
+            case 4: return x.parse();
+            case 5: return x.value(call[1]);
+            case 6: return x.drop();
+            case 7: return x.write();
+            case 8: return x.place();
+            case 9: return x.at();
+            case 10: return x.values();
+            case 11: return x.valueAt(call[1]);
+            case 12: return x.bytes();
+            case 13: return x.byteAt(call[1]);
+            default: return x.variable(call[1]);
+        }
     }
 
     private static void same(String what, List<String> found, List<String> wanted) {
